@@ -1271,13 +1271,11 @@ public final class LargePages {
                 at += 2;
                 long right = top > 0 ? stack[top - 1] : 0;
                 long left = top > 1 ? stack[top - 2] : 0;
-                if (what == JUMP) {
+                if (what == JUMP || what == JUMP_UNLESS && right == 0) {
                     at = Math.max(at, with);
-                    continue;
                 }
-                top = what < JUMP ? top + 1 : what < PLUS && what != JUMP_UNLESS ? top : top - 1;
-                if (what == JUMP_UNLESS) {
-                    at = right == 0 ? Math.max(at, with) : at;
+                top += what <= NAME ? 1 : what == JUMP_UNLESS || what >= PLUS ? -1 : 0;
+                if (what == JUMP || what == JUMP_UNLESS) {
                     continue;
                 }
                 boolean object = right >= 0 && right < OBJECTS;

@@ -12,6 +12,7 @@ public final class LanguageTest {
         clauses();
         sums();
         names();
+        oneBehindTheOther();
         ruling();
         drawn();
         Desk.close("LanguageTest");
@@ -159,6 +160,19 @@ public final class LanguageTest {
         fault("spares page;", 5, 7);
         fault("spares has page;", 5, 11);
         fault("wants 1 idle;", 1, 8);
+        fault("wantsA 1;", 1, 0);
+        fault("wantsZ 1;", 1, 0);
+        fault("wantsa 1;", 1, 0);
+        fault("wantsz 1;", 1, 0);
+        fault("wants 1[;", 1, 7);
+        fault("wants 1`;", 1, 7);
+        fault("wants 1{;", 1, 7);
+        fault("wants 1@;", 1, 7);
+        fault("wants 1:;", 1, 7);
+        fault(";".repeat(300), 1, 0);
+        fault("wants " + "(".repeat(294), 3, 14);
+        fault("day 1;" + " ".repeat(293) + "?", 1, 299);
+        good("day 1;" + " ".repeat(294));
     }
 
     private static void depth() {
@@ -237,7 +251,17 @@ public final class LanguageTest {
         wants("if 2>=2 then 5 else 6 end", 5);
         wants("if 2=2 then 5 else 6 end", 5);
         wants("if 2#2 then 5 else 6 end", 6);
-        wants("if not 2=2 then 5 else 6 end", 6);
+        for (String sign : new String[] {"<", "<=", ">", ">=", "=", "#"}) {
+            for (int left = 1; left < 4; left++) {
+                boolean so = sign.equals("<") ? left < 2 : sign.equals("<=") ? left <= 2 : sign.equals(">") ? left > 2
+                        : sign.equals(">=") ? left >= 2 : sign.equals("=") ? left == 2 : left != 2;
+                wants("if " + left + sign + "2 then 5 else 6 end", so ? 5 : 6);
+                wants("if not " + left + sign + "2 then 5 else 6 end", so ? 6 : 5);
+                wants("if not not " + left + sign + "2 then 5 else 6 end", so ? 5 : 6);
+            }
+        }
+        wants("1-1+".repeat(71) + "9", 9);
+        wants("1+1*if 1=2 or 1=1 and 1<1*".repeat(5) + "2" + " then 2 else 9 end".repeat(5), 3);
         wants("if not not 2=2 then 5 else 6 end", 5);
         wants("if 1=1 or 1=2 and 1=2 then 5 else 6 end", 5);
         wants("if 1=2 and 1=1 or 1=2 then 5 else 6 end", 6);
@@ -258,6 +282,9 @@ public final class LanguageTest {
         wants("has 9999+5", 5);
         wants("soiled 0+4", 5);
         wants("soiled 1+4", 4);
+        wants("soiled 3+4", 4);
+        wants("soiled 4+4", 4);
+        wants("soiled -1+4", 4);
         wants("has 0*2", 6);
         wants("has has 3", 3);
         wants("has soiled 0", 1);
@@ -290,6 +317,21 @@ public final class LanguageTest {
         }
         Desk.due("wants(1, 8)", x.wants(1, 8), -1);
         Desk.due("spares(2)", x.spares(2), false);
+    }
+
+    /** What one text has left behind must not reach into the next. */
+    private static void oneBehindTheOther() {
+        LargePages x = Desk.with(8);
+        for (int i = 0; i < 4; i++) {
+            Desk.due("text", Desk.text(x, "wants " + "1-1+".repeat(71) + (i + 2) + ";"), i);
+            Desk.text(x, "wants 1;spares 5;day 1;day 61;");
+        }
+        for (int i = 0; i < 4; i++) {
+            x.by(i);
+            Desk.due("wants", x.wants(0, 0), i + 2);
+            Desk.due("played", x.played(i), -1);
+            Desk.due("day", x.is(2), 0);
+        }
     }
 
     private static void ruling() {

@@ -19,6 +19,7 @@ public final class QuestionsTest {
         bits();
         said();
         image();
+        imageOfWhatIsTold();
         about();
         asking();
         Desk.close("QuestionsTest");
@@ -332,6 +333,16 @@ public final class QuestionsTest {
         Desk.due("holes(4)", x.holes(4), 0);
         Desk.due("holes(1)", x.holes(1), 3);
         Desk.due("spread by 1", x.spread(), 0);
+        LargePages y = Desk.with(32, 32);
+        y.touch(0, 0);
+        y.touch(0, 16);
+        y.touch(1, 0);
+        Desk.due("one of 16", y.holes(16), 1);
+        Desk.due("spread", y.spread(), 0);
+        Desk.law(y, "wants 1;");
+        y.touch(1, 16);
+        y.touch(1, 17);
+        Desk.due("three of 4 and two", y.spread(), 2);
         x.touch(3, 1);
         x.touch(3, 2);
         x.touch(1, 28);
@@ -363,6 +374,10 @@ public final class QuestionsTest {
         Desk.due("eldest", x.eldest(1), 1);
         x.touch(1, 1);
         Desk.due("eldest", x.eldest(1), 4);
+        LargePages y = Desk.with(3);
+        y.touch(0, 0);
+        y.touch(0, 2);
+        Desk.due("eldest", y.eldest(0), 0);
         for (int odd : ODD) {
             Desk.due("digest(" + odd + ")", x.digest(odd), -1);
             Desk.due("alike(" + odd + ", 0)", x.alike(odd, 0), -1);
@@ -430,6 +445,10 @@ public final class QuestionsTest {
         x.touch(0, 0);
         x.touch(0, 9);
         Desk.due("as now", x.whose(), 8);
+        LargePages y = Desk.with(9, 5);
+        Desk.text(y, "wants size+number;");
+        y.said(2, 9);
+        Desk.due("of object 0", y.whose(), 1);
         Desk.due("it need not rule", x.about(2), -1);
     }
 
@@ -473,6 +492,10 @@ public final class QuestionsTest {
         Desk.due("value", x.page(0, 6, 2), 50);
         Desk.due("let", x.let(-1), 2);
         Desk.due("book", x.book(-1, 0), 1);
+        Desk.due("the size", x.ideal(0), 2);
+        Desk.due("the law", x.wants(0, 0), 4);
+        Desk.due("what is said", x.whose(), 1);
+        Desk.due("no more of the object told since", x.page(1, 0, 0), -2);
         Desk.due("its steps can be taken back", x.undo(), 1);
         Desk.due("its steps can be taken back", x.page(0, 6, 2), 0);
         Desk.due("its steps can be taken back", x.undo(), 0);
@@ -485,6 +508,60 @@ public final class QuestionsTest {
         Desk.due("steps", x.about(3), 1);
         Desk.due("undo", x.undo(), 0);
         Desk.due("there", x.there(0), 0);
+    }
+
+    /** What is told behind the image does not come through it. */
+    private static void imageOfWhatIsTold() {
+        LargePages x = new LargePages();
+        x.image();
+        x.object(5);
+        Desk.text(x, "wants 3;");
+        x.by(0);
+        x.said(4, 3);
+        x.back();
+        Desk.due("object", x.object(32), 0);
+        Desk.due("its size", x.ideal(0), 2);
+        Desk.due("text", Desk.text(x, "wants 7;"), 0);
+        x.by(0);
+        Desk.due("its law", x.wants(0, 9), 7);
+        x.said(9, 7);
+        Desk.due("whose", x.whose(), 1);
+        x.image();
+        x.back();
+        Desk.text(x, "wants 8;");
+        x.by(1);
+        x.said(-1, 0);
+        x.said(1, 8);
+        Desk.due("whose", x.whose(), 2);
+        x.back();
+        Desk.due("said", x.about(4), 1);
+        Desk.due("whose", x.whose(), 1);
+        Desk.due("wants", x.wants(0, 9), 7);
+        Desk.text(x, "wants page;");
+        x.said(-1, 0);
+        x.said(3, 3);
+        x.image();
+        x.said(-1, 0);
+        x.said(5, 3);
+        Desk.due("whose", x.whose(), 0);
+        x.back();
+        Desk.due("the pages that were said", x.whose(), 2);
+        Desk.due("another size", x.object(3), 1);
+        x.back();
+        Desk.due("another size", x.object(20), 1);
+        Desk.due("its size", x.ideal(1), 2);
+        for (int i = 0; i < 40; i++) {
+            x.touch(0, i % 32);
+        }
+        x.image();
+        Desk.due("steps", x.about(3), 30);
+        x.drop(0);
+        x.drop(1);
+        x.back();
+        for (int i = 29; i >= 0; i--) {
+            Desk.due("undo", x.undo(), i);
+            Desk.due("time", x.is(0), 10 + i);
+        }
     }
 
     private static void about() {

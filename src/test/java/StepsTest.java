@@ -8,6 +8,7 @@ public final class StepsTest {
         wanting();
         preempting();
         breaking();
+        hollows();
         noRoom();
         promoting();
         writing();
@@ -164,6 +165,37 @@ public final class StepsTest {
         Desk.due("a block in four reservations is not", x.page(0, 0, 4), 1);
     }
 
+    /** The frames of a broken reservation are free, the first one too, and its blocks are looked at one by one. */
+    private static void hollows() {
+        LargePages x = full();
+        x.drop(0);
+        x.touch(0, 21);
+        x.touch(0, 5);
+        Desk.due("frames", x.page(0, 21, 0), 5);
+        x.touch(2, 0);
+        Desk.due("the eldest is broken", x.page(2, 0, 0), 36);
+        LargePages y = Desk.with(32, 32, 32, 32);
+        for (int page : new int[] {1, 4, 12}) {
+            y.touch(0, page);
+        }
+        for (int page : new int[] {16, 20, 24}) {
+            y.touch(0, page);
+        }
+        y.touch(1, 5);
+        Desk.touch(y, 1, 16, 16);
+        Desk.due("the third block has no page", y.victim(4), 0);
+        Desk.due("its frame", y.would(2, 2, 1), 10);
+        Desk.due("it is in frames 8 to 11", y.touch(2, 2), 10);
+        Desk.due("the first frame is free", y.frame(0), -1);
+        Desk.due("the second has its page", y.frame(1), 1);
+        Desk.due("the last block has no page", y.victim(4), 16);
+        Desk.due("it is in frames 28 to 31", y.touch(3, 1), 29);
+        Desk.due("the first block has no page", y.victim(4), 32);
+        Desk.due("it is in frames 32 to 35", y.touch(3, 17), 33);
+        Desk.due("so is the third", y.touch(3, 21), 41);
+        Desk.due("sound", y.sound(), true);
+    }
+
     private static void noRoom() {
         LargePages x = Desk.with(32, 32, 32);
         Desk.law(x, "wants 1;");
@@ -184,6 +216,20 @@ public final class StepsTest {
         Desk.due("no step more", x.about(3), 30);
         Desk.due("the latest step is the touch", x.undo(), 29);
         Desk.due("the latest step is the touch", x.page(2, 9, 0), -1);
+        LargePages y = full();
+        Desk.law(y, "wants 1;");
+        Desk.touch(y, 0, 0, 32);
+        Desk.touch(y, 1, 0, 32);
+        int done = y.day(60);
+        Desk.due("days without room do less", done > 0 && done < 60, true);
+        LargePages z = full();
+        Desk.touch(z, 0, 0, 32);
+        Desk.touch(z, 1, 0, 32);
+        // X is 499: the first day would write to page 1 of object 2 of 4 (499 % 8 is 3, 6906 % 4 is 2).
+        Desk.due("no room", z.day(1), 0);
+        Desk.due("nothing is done", z.is(0), 68);
+        Desk.due("all is drawn", z.is(1), 16419);
+        Desk.due("a day and a step", z.is(2) + z.about(3), 31);
     }
 
     private static void promoting() {
@@ -309,6 +355,12 @@ public final class StepsTest {
         Desk.due("it is pinned", y.copy(1, 16, 2, 0), 1);
         Desk.due("page", y.page(2, 0, 0), -1);
         Desk.due("no more", y.victim(1), 48);
+        LargePages z = Desk.with(32, 32, 32);
+        Desk.touch(z, 0, 0, 32);
+        z.touch(1, 0);
+        Desk.touch(z, 1, 16, 16);
+        Desk.due("the pages beside the reservation pin it not", z.copy(1, 16, 2, 0), 2);
+        Desk.due("let", z.let(0), 36);
         Desk.due("copy the other way", y.copy(0, 0, 2, 0), 2);
         Desk.due("let", y.let(0), 52);
         Desk.due("let", y.let(1), 0);
@@ -437,6 +489,16 @@ public final class StepsTest {
         Desk.due("steps", x.about(3), 7);
         Desk.due("its fault", x.touch(0, 0), 0);
         Desk.due("value as saved", x.page(0, 0, 2), 5);
+        LargePages y = Desk.with(32);
+        Desk.touch(y, 0, 0, 20);
+        Desk.due("reach", y.reach(), 20);
+        y.drop(0);
+        Desk.due("reach", y.reach(), 0);
+        Desk.due("entries", y.entries(0), 0);
+        y.touch(0, 1);
+        y.touch(0, 17);
+        Desk.due("level", y.page(0, 1, 4), 1);
+        Desk.due("level", y.page(0, 17, 4), 1);
     }
 
     private static void days() {
@@ -509,7 +571,12 @@ public final class StepsTest {
         Desk.due("day", x.is(2), 9960);
         Desk.due("beyond", x.day(40), -1);
         Desk.due("nothing is done", x.is(2), 9960);
+        Desk.text(x, "day 39;");
         x.image();
+        Desk.due("up to the last day", x.played(2), -1);
+        Desk.due("day", x.is(2), 9999);
+        Desk.due("none can pass", x.played(2), 0);
+        x.back();
         Desk.due("played: the day that can't be", x.played(1), 0);
         Desk.due("those that can pass do", x.is(2), 9999);
         Desk.due("no clause behind it", x.about(0), 0);
@@ -525,6 +592,8 @@ public final class StepsTest {
         Desk.due("day", x.is(2), 9999);
         Desk.due("a step all the same", x.about(3), steps);
         Desk.due("foretold", x.foretold(60, 0), x.is(3));
+        Desk.due("foretold", x.foretold(60, 1), x.reserved(-1, 0));
+        Desk.due("foretold", x.foretold(60, 2), x.entries(0));
         x.undo();
         Desk.due("X", x.is(1), 499);
         x.undo();
@@ -629,5 +698,24 @@ public final class StepsTest {
         Desk.due("said", x.about(4), 1);
         Desk.due("a step anew", x.touch(0, 0), 0);
         Desk.due("undo", x.undo(), 0);
+        LargePages y = Desk.with(32);
+        Desk.touch(y, 0, 0, 4);
+        y.touch(0, 16);
+        Desk.due("time of the latest fault", y.reserved(0, 4), 3);
+        y.touch(0, 5);
+        Desk.due("time of the latest fault", y.reserved(0, 4), 5);
+        y.undo();
+        Desk.due("taken back", y.reserved(0, 4), 3);
+        y.write(0, 2, 9);
+        y.undo();
+        Desk.due("level", y.page(0, 2, 4), 4);
+        Desk.due("dirty", y.dirty(0), 0);
+        Desk.due("value", y.page(0, 2, 2), 0);
+        Desk.due("used", y.page(0, 2, 5), 2);
+        Desk.due("book", y.book(-1, 0), 3);
+        y.drop(0);
+        y.undo();
+        Desk.due("level", y.page(0, 2, 4), 4);
+        Desk.line(y, 1, 3, 2, 0, 0);
     }
 }

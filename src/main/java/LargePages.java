@@ -725,7 +725,7 @@ public final class LargePages {
 
         int lowestFree(int n) {
             long busy = busyFrames();
-            for (int first = 0; first < FRAMES; first += n) {
+            for (int first = 0; first < FRAMES; first += Math.max(1, n)) {
                 if (((busy >>> first) & ((1L << n) - 1)) == 0) {
                     return first;
                 }
@@ -736,7 +736,7 @@ public final class LargePages {
         int freeBlocks(int n) {
             long busy = busyFrames();
             int count = 0;
-            for (int first = 0; first < FRAMES; first += n) {
+            for (int first = 0; first < FRAMES; first += Math.max(1, n)) {
                 if (((busy >>> first) & ((1L << n) - 1)) == 0) {
                     count++;
                 }
@@ -747,7 +747,7 @@ public final class LargePages {
         /** The lowest block of n frames of a reservation without a page in it. */
         int hollow(int slot, int n) {
             int inside = there[home[slot] / PAGES] >>> (home[slot] % PAGES);
-            for (int i = 0; i + n <= span[slot]; i += n) {
+            for (int i = 0; i + n <= span[slot]; i += Math.max(1, n)) {
                 if (((inside >>> i) & ((1 << n) - 1)) == 0) {
                     return slot + i;
                 }
@@ -775,7 +775,7 @@ public final class LargePages {
         int blockToEmpty(int n) {
             int best = NONE;
             int bestUse = 0;
-            for (int first = 0; first < FRAMES; first += n) {
+            for (int first = 0; first < FRAMES; first += Math.max(1, n)) {
                 boolean fits = false;
                 boolean soiled = false;
                 int use = NONE;

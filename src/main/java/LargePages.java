@@ -854,7 +854,9 @@ public final class LargePages {
 
         void copyFrom(Told other) {
             System.arraycopy(other.sizes, 0, sizes, 0, OBJECTS);
-            System.arraycopy(other.texts, 0, texts, 0, TEXTS);
+            for (int i = 0; i < TEXTS; i++) {
+                texts[i] = other.texts[i];
+            }
             System.arraycopy(other.saidPages, 0, saidPages, 0, SAYINGS);
             System.arraycopy(other.saidWants, 0, saidWants, 0, SAYINGS);
             objects = other.objects;

@@ -2,6 +2,7 @@
 final class Desk {
     private static int wrong = 0;
     private static int asked = 0;
+    private static String place = "";
 
     private Desk() {
     }
@@ -10,12 +11,17 @@ final class Desk {
         asked++;
         if (got != want) {
             wrong++;
-            System.out.println(call + " answered " + got + ", due is " + want);
+            System.out.println(place + call + " answered " + got + ", due is " + want);
         }
     }
 
     static void due(String call, boolean got, boolean want) {
         due(call, got ? 1 : 0, want ? 1 : 0);
+    }
+
+    /** What is asked from here on stands under these words. */
+    static void under(String words) {
+        place = words + ": ";
     }
 
     /** Exits with 1 if an answer was not the one that is due. */

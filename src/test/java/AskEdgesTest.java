@@ -319,6 +319,7 @@ public final class AskEdgesTest {
 
     private static void would() {
         Edge.promise(25, "A FAULT: 0 how many PAGES would be RESERVED (0: one is that has it), 1 the FRAME.");
+        Edge.terms("A FAULT as it would be now.");
         LargePages x = Desk.with(32, 21, 1);
         fault(x, 0, 31, 16, 15);
         fault(x, 1, 19, 4, 3);
@@ -370,6 +371,7 @@ public final class AskEdgesTest {
 
     private static void victims() {
         Edge.promise(26, "VICTIM: its first FRAME.");
+        Edge.terms("VICTIM of a PREEMPTION for so many FRAMES now.");
         LargePages x = Edge.claimed();
         Desk.due("the first frame", x.victim(4), 0);
         x.touch(0, 1);
@@ -397,6 +399,7 @@ public final class AskEdgesTest {
 
     private static void next() {
         Edge.promise(27, "EMPTIED NEXT: the first FRAME.");
+        Edge.terms("EMPTIED NEXT.");
         LargePages x = Edge.packed();
         row("the first", new int[] {x.next(1), x.next(4), x.next(16)}, 0, 0, 0);
         Desk.touch(x, 0, 0, 32);
@@ -424,6 +427,7 @@ public final class AskEdgesTest {
 
     private static void entries() {
         Edge.promise(28, "ENTRIES.");
+        Edge.terms("ENTRIES of an OBJECT: as many as there are BLOCKS of LEVEL 16, of 4 and PAGES of 1.");
         LargePages x = Desk.with(32, 1);
         Desk.due("nothing is there", x.entries(0), 0);
         Desk.touch(x, 0, 0, 15);
@@ -445,6 +449,7 @@ public final class AskEdgesTest {
 
     private static void ideals() {
         Edge.promise(29, "IDEAL: how many.");
+        Edge.terms("IDEAL: the fewest by which all its PAGES would be told, all being there, in BLOCKS of 16, of 4 and of 1.");
         for (int size = 1; size <= 32; size++) {
             int left = size;
             int count = 0;
@@ -468,6 +473,7 @@ public final class AskEdgesTest {
 
     private static void map() {
         Edge.promise(30, "THE MAP: how many are there.");
+        Edge.terms("THE MAP: how many PAGES of the BLOCK of n with that PAGE are there.");
         LargePages x = Desk.with(22, 32);
         for (int page : new int[] {0, 3, 4, 15, 16, 21}) {
             x.touch(0, page);
@@ -495,6 +501,7 @@ public final class AskEdgesTest {
 
     private static void holes() {
         Edge.promise(31, "HOLES: how many.");
+        Edge.terms("HOLES: BLOCKS of so many FREE FRAMES.");
         LargePages x = Desk.with(32, 32, 1);
         row("all are free", new int[] {x.holes(1), x.holes(4), x.holes(16)}, 64, 16, 4);
         x.touch(2, 0);
@@ -514,6 +521,7 @@ public final class AskEdgesTest {
 
     private static void reach() {
         Edge.promise(32, "REACH: how many PAGES.");
+        Edge.terms("REACH: PAGES of LEVEL 4 or 16.");
         LargePages x = Desk.with(32, 32);
         Desk.due("none", x.reach(), 0);
         Desk.touch(x, 0, 0, 3);
@@ -593,6 +601,7 @@ public final class AskEdgesTest {
 
     private static void alike() {
         Edge.promise(35, "ALIKE: how many PAGES.");
+        Edge.terms("ALIKE: PAGES of like numbers of two OBJECTS of like VALUE.");
         LargePages x = Desk.with(5, 32, 5);
         Desk.due("the smaller one's", x.alike(0, 1), 5);
         Desk.due("the other way", x.alike(1, 0), 5);
@@ -618,6 +627,7 @@ public final class AskEdgesTest {
 
     private static void eldest() {
         Edge.promise(36, "ELDEST: the PAGE.");
+        Edge.terms("ELDEST: the PAGE that is there USED longest ago; of like ones the lowest; none.");
         LargePages x = Desk.with(32, 32);
         x.touch(0, 31);
         Desk.due("the only one", x.eldest(0), 31);
@@ -681,6 +691,7 @@ public final class AskEdgesTest {
 
     private static void sound() {
         Edge.promise(39, "SOUND.");
+        Edge.terms("SOUND: no FRAME is in two RESERVATIONS, each PAGE that is there is in one, in its FRAME there, and each of LEVEL 4, 16 is in a BLOCK all of that LEVEL, in one RESERVATION, all DIRTY or none.");
         Desk.due("a new object", new LargePages().sound(), true);
         LargePages x = Edge.packed();
         Desk.due("all frames", x.sound(), true);
@@ -693,10 +704,49 @@ public final class AskEdgesTest {
         x.drop(1);
         x.undo();
         Desk.due("taken back", x.sound(), true);
-        x.years(4321, 40);
-        Desk.due("years", x.sound(), true);
+        for (int seed = 0; seed < 60; seed++) {
+            x.years(seed, 40);
+            x.write(seed % 2, seed % 32, seed % 3);
+            x.copy(seed % 3, seed % 32, (seed + 1) % 3, seed * 7 % 32);
+            Desk.due("sound behind years", x.sound(), true);
+            Desk.due("so say the answers", levelsHold(x), true);
+        }
         x.back();
         Desk.due("back", x.sound(), true);
+    }
+
+    /** SOUND, by what page, frame and reserved say. */
+    private static boolean levelsHold(LargePages x) {
+        for (int object = 0; object < x.about(0); object++) {
+            for (int page = 0; page < 32; page++) {
+                int level = x.page(object, page, 4);
+                int frame = x.page(object, page, 0);
+                if ((level == 0) != (frame < 0) || level > 0 && x.frame(frame) != 32 * object + page) {
+                    return false;
+                }
+                int first = level > 0 ? page / level * level : 0;
+                for (int i = first; level > 1 && i < first + level; i++) {
+                    if (x.page(object, i, 4) != level || x.page(object, i, 1) != x.page(object, page, 1)
+                            || x.page(object, i, 0) - i != frame - page) {
+                        return false;
+                    }
+                }
+                if (level > 1 && (x.page(object, first, 0) % level != 0 || !inOne(x, object, first, level))) {
+                    return false;
+                }
+            }
+        }
+        return true;
+    }
+
+    private static boolean inOne(LargePages x, int object, int first, int n) {
+        for (int i = 0; i < x.reserved(-1, 0); i++) {
+            if (x.reserved(i, 0) == object && x.reserved(i, 1) <= first
+                    && x.reserved(i, 1) + x.reserved(i, 2) >= first + n) {
+                return true;
+            }
+        }
+        return false;
     }
 
     private static void ledger() {
@@ -790,6 +840,7 @@ public final class AskEdgesTest {
 
     private static void back() {
         Edge.promise(46, "BACK to THE IMAGE (it stays): TIME.");
+        Edge.terms("BACK: all is so again.");
         LargePages x = Desk.with(32);
         Desk.touch(x, 0, 0, 32);
         x.image();

@@ -4,6 +4,7 @@ import java.io.IOException;
 public final class TermsEdgesTest {
     public static void main(String[] args) throws IOException {
         bounds();
+        reservations();
         calls();
         blocks();
         wanting();
@@ -65,6 +66,53 @@ public final class TermsEdgesTest {
             y.drop(0);
         }
         Desk.due("the latest 25", y.book(-1, 0), 25);
+    }
+
+    private static void reservations() {
+        Edge.terms("A PAGE is ABSENT (at first) or in a FRAME; VALUE 0 .. 99");
+        LargePages x = Desk.with(32, 20, 7, 1);
+        Desk.due("absent at first", x.page(0, 0, 0) + x.page(0, 31, 0) + x.page(3, 0, 0), -3);
+        Desk.due("no value below", x.write(0, 0, -1), -1);
+        Desk.due("no value above", x.write(0, 0, 100), -1);
+        Desk.due("absent yet", x.page(0, 0, 0), -1);
+
+        Edge.terms("of an OBJECT n PAGES (1, 4 or 16) from one on that is a multiple of n, in n FRAMES from one on that is a multiple of n: each PAGE of it that is there is in its own one of these; no two have a FRAME or a PAGE in common; and the TIME of its latest FAULT.");
+        for (int seed = 0; seed < 40; seed++) {
+            x.years(seed * 250, 40);
+            Desk.due("reservations behind years", apart(x), true);
+        }
+    }
+
+    /** What the document says of reservations, by what reserved, frame and page answer. */
+    private static boolean apart(LargePages x) {
+        boolean[] frames = new boolean[64];
+        boolean[] pages = new boolean[128];
+        int[] sizes = {32, 20, 7, 1};
+        for (int i = 0; i < x.reserved(-1, 0); i++) {
+            int object = x.reserved(i, 0);
+            int page = x.reserved(i, 1);
+            int n = x.reserved(i, 2);
+            int frame = x.reserved(i, 3);
+            if (n != 1 && n != 4 && n != 16 || page % n != 0 || frame % n != 0 || page + n > sizes[object]
+                    || x.reserved(i, 4) >= x.is(0) || x.reserved(i, 5) < 1) {
+                return false;
+            }
+            for (int k = 0; k < n; k++) {
+                int there = x.page(object, page + k, 0);
+                if (frames[frame + k] || pages[32 * object + page + k] || there != -1 && there != frame + k
+                        || x.frame(frame + k) != (there == -1 ? -2 : 32 * object + page + k)) {
+                    return false;
+                }
+                frames[frame + k] = true;
+                pages[32 * object + page + k] = true;
+            }
+        }
+        for (int frame = 0; frame < 64; frame++) {
+            if (!frames[frame] && x.frame(frame) != -1) {
+                return false;
+            }
+        }
+        return true;
     }
 
     private static void calls() {
@@ -802,6 +850,7 @@ public final class TermsEdgesTest {
     }
 
     private static void playedDays() {
+        byHand();
         Edge.terms("one that can't be ends it (of so many DAYS those that can pass do): its number among all CLAUSES (from 0); what was done stays.");
         LargePages x = Edge.onDay(9990);
         Desk.text(x, "wants 1;day 9;object 4;");
@@ -822,6 +871,26 @@ public final class TermsEdgesTest {
         Desk.due("many too many", x.played(3), 2);
         Desk.due("those that can pass do", x.is(2), 9999);
         Desk.due("steps", x.about(3), 30);
+    }
+
+    private static void byHand() {
+        Edge.terms("PLAYED by a TEXT: its CLAUSES but laws, in their order, as by hand");
+        LargePages x = new LargePages();
+        LargePages y = new LargePages();
+        String text = "object 32;wants 1;touch 31 of 0;object 1;write 0 of 1 by 99;sweep 1;spares 0;day 2;empty 4;drop 1;";
+        Desk.text(x, text);
+        Desk.text(y, text);
+        Desk.due("played", x.played(0), -1);
+        y.object(32);
+        y.touch(0, 31);
+        y.object(1);
+        y.write(1, 0, 99);
+        y.sweep(1);
+        y.day(2);
+        y.empty(4);
+        y.drop(1);
+        Edge.same(x, Edge.stand(y));
+        Desk.due("no law rules by that", x.about(2), -1);
     }
 
     private static void years() {

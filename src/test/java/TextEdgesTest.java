@@ -307,7 +307,17 @@ public final class TextEdgesTest {
             }
             fault(b.toString(), 1, place);
         }
+        Edge.terms("or sweep NUMBER ; or empty NUMBER ; or drop NUMBER ; or day NUMBER ;.");
         good(String.join(" ", words));
+        good("sweep 0;empty 1;drop 0;day 1;sweep 3;empty 16;drop 3;day 60;");
+        for (String word : new String[] {"sweep", "empty", "drop", "day"}) {
+            fault(word, 1, word.length());
+            fault(word + ";", 1, word.length());
+            fault(word + " 1", 1, word.length() + 2);
+            fault(word + " 1 1;", 1, word.length() + 3);
+            fault(word + " time;", 1, word.length() + 1);
+            fault(word + " (1);", 1, word.length() + 1);
+        }
     }
 
     private static void sums() {
